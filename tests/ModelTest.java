@@ -8,7 +8,7 @@ import java.util.TreeSet;
  * written from the document alone, in another way: it walks all orders one by one.
  */
 public final class ModelTest {
-    private static final int RUNS = 400;
+    private static final int RUNS = 240;
 
     public static void main(String[] args) {
         for (int run = 1; run <= RUNS; run++) {
@@ -269,7 +269,7 @@ public final class ModelTest {
                 t.append(any(2) == 0 ? " " : ";");
             }
             if (any(10) == 0 && t.length() > 0) {
-                t.setCharAt(any(t.length()), (char) (any(2) == 0 ? any(256) : " ;09az"  .charAt(any(6))));
+                t.setCharAt(any(t.length()), (char) (any(2) == 0 ? any(256) : " ;09az".charAt(any(6))));
             }
             return t.length() > 100 ? t.substring(0, 100) : t.toString();
         }

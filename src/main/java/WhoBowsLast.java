@@ -132,7 +132,7 @@ public final class WhoBowsLast {
         if (!scene.isBow(bow)) {
             return finding(BEYOND);
         }
-        if ((scene.comers() & 1 << bow) == 0) {
+        if (!scene.couldCome(bow, scene.came)) {
             return finding(STATE);
         }
         return scene.enter(bow);
@@ -1181,12 +1181,16 @@ public final class WhoBowsLast {
 
         private final int[] bytes = new int[MOST_BYTES];
         int size;
-        /** Of each token its sort, its first byte's place and its length; behind the last one stands END. */
+        /**
+         * Of each token its sort, its first byte's place, its length and its number: of a word, which one;
+         * of a number, itself. Behind the last one stands END.
+         */
         private final int[] sorts = new int[MOST_BYTES + 1];
         private final int[] starts = new int[MOST_BYTES + 1];
         private final int[] lengths = new int[MOST_BYTES + 1];
+        private final int[] values = new int[MOST_BYTES + 1];
         private int tokens;
-        /** Which token is at hand, its sort, and its number: of a word, which one; of a number, itself. */
+        /** The token at hand: which it is, its sort and its number. */
         private int at;
         private int sort;
         private int value;
@@ -1318,7 +1322,16 @@ public final class WhoBowsLast {
             }
             sorts[tokens] = END;
             starts[tokens] = size;
-            lengths[tokens] = 0;
+            for (int t = 0; t <= tokens; t++) {
+                values[t] = valueOf(t);
+            }
+        }
+
+        private int valueOf(int t) {
+            if (sorts[t] == WORD) {
+                return wordAt(starts[t], lengths[t]);
+            }
+            return sorts[t] == NUMBER ? numberAt(starts[t], lengths[t]) : 0;
         }
 
         private static int sortOf(int b) {
@@ -1338,12 +1351,7 @@ public final class WhoBowsLast {
         private void take(int i) {
             at = Math.min(i, tokens);
             sort = sorts[at];
-            value = 0;
-            if (sort == WORD) {
-                value = wordAt(starts[at], lengths[at]);
-            } else if (sort == NUMBER) {
-                value = numberAt(starts[at], lengths[at]);
-            }
+            value = values[at];
         }
 
         private int wordAt(int start, int length) {
