@@ -110,6 +110,9 @@ public final class HelpsTest {
         x.contract(8, 7, 1);
         Check.due("freed() of nine", x.freed(), 87);
         Check.due("free() of nine", x.free(), 90);
+        x.change(0, 1, 99);
+        Check.due("free() behind a change", x.free(), 179);
+        x.change(0, 1, 10);
         x.contract(7, 8, 1);
         Check.due("freed() of a ring of nine", x.freed(), 78);
         Check.due("free() of a ring of nine", x.free(), 90);

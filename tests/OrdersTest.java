@@ -231,6 +231,14 @@ public final class OrdersTest {
         Check.due("place(0, 0)", x.place(0, 0), 0);
         Check.due("place(1, 1)", x.place(1, 1), 1);
         Check.due("clash()", x.clash(), 7);
+        // One who has come though 1 should have come ahead: 2 and 3 may come ahead of 1 all the same.
+        x = Check.made("bow love 50;falling love 40;bow love 20;bow love 40");
+        x.come(0);
+        x.contract(1, 0, 1);
+        // 1 makes 44 behind 3, 42 behind 2, 35 behind 0.
+        Check.due("best(0)", x.best(0), 104);
+        Check.due("best(1): whoever is behind 0 falls", x.best(1), 1);
+        order(x, 0, 2, 3, 1);
         x = Check.made("bow love 50;falling love 10;bow love 20");
         x.come(0);
         Check.due("the first falls behind the stage", x.best(1), 1);

@@ -929,6 +929,10 @@ public final class WhoBowsLast {
         private final int[] scores = new int[(MOST_BOWS + 1) * MOST_BOWS];
         /** By the set of those that have come and who of them is the latest: the most that can follow. */
         private final int[] most = new int[MOST_SETS * MOST_BOWS];
+        /** Of those who can come right behind a set: who, and the most that can follow each. */
+        private final int[] followers = new int[MOST_BOWS];
+        private final int[] mostThen = new int[MOST_BOWS];
+        private int many;
         /** By a set: a count or a least number for it. */
         private final int[] bySet = new int[MOST_SETS];
         final int[] first = new int[MOST_BOWS];
@@ -1000,31 +1004,37 @@ public final class WhoBowsLast {
             score(what);
             for (int set = full; set > came; set--) {
                 if (canStand(set)) {
+                    findFollowers(set);
                     for (int b = 0; b < bows; b++) {
                         if ((set & ~came & 1 << b) != 0) {
-                            most[set * MOST_BOWS + b] = mostBehind(set, b);
+                            most[set * MOST_BOWS + b] = mostBehind(b);
                         }
                     }
                 }
             }
-            return mostBehind(came, latest);
+            findFollowers(came);
+            return mostBehind(latest);
         }
 
-        private int mostBehind(int set, int ahead) {
-            if (set == full) {
-                return 0;
-            }
-            int greatest = Integer.MIN_VALUE;
+        /** Finds who can come right behind a set; nobody can behind the full one alone. */
+        private void findFollowers(int set) {
+            many = 0;
             for (int b = 0; b < bows; b++) {
                 if (canFollow(b, set)) {
-                    greatest = Math.max(greatest, mostWith(set, ahead, b));
+                    followers[many] = b;
+                    mostThen[many] = most[(set | 1 << b) * MOST_BOWS + b];
+                    many++;
                 }
             }
-            return greatest;
         }
 
-        private int mostWith(int set, int ahead, int bow) {
-            return scores[ahead * MOST_BOWS + bow] + most[(set | 1 << bow) * MOST_BOWS + bow];
+        /** The most that the followers can bring if one is right ahead of them. */
+        private int mostBehind(int ahead) {
+            int greatest = Integer.MIN_VALUE;
+            for (int i = 0; i < many; i++) {
+                greatest = Math.max(greatest, scores[ahead * MOST_BOWS + followers[i]] + mostThen[i]);
+            }
+            return many == 0 ? 0 : greatest;
         }
 
         /** Finds the first way with the most (there must be one). */
@@ -1032,25 +1042,23 @@ public final class WhoBowsLast {
             weigh(what);
             int set = came;
             int ahead = latest;
-            int many = rest();
-            for (int i = 0; i < many; i++) {
-                int bow = firstBehind(set, ahead);
-                first[i] = bow;
-                set |= 1 << bow;
-                ahead = bow;
+            int length = rest();
+            for (int i = 0; i < length; i++) {
+                findFollowers(set);
+                first[i] = firstBehind(ahead);
+                ahead = first[i];
+                set |= 1 << ahead;
             }
         }
 
-        private int firstBehind(int set, int ahead) {
-            int greatest = Integer.MIN_VALUE;
-            int who = 0;
-            for (int b = 0; b < bows; b++) {
-                if (canFollow(b, set) && mostWith(set, ahead, b) > greatest) {
-                    greatest = mostWith(set, ahead, b);
-                    who = b;
+        private int firstBehind(int ahead) {
+            int greatest = mostBehind(ahead);
+            for (int i = 0; i < many; i++) {
+                if (scores[ahead * MOST_BOWS + followers[i]] + mostThen[i] == greatest) {
+                    return followers[i];
                 }
             }
-            return who;
+            return 0;
         }
 
         int countWays() {
