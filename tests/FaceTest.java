@@ -91,7 +91,7 @@ public final class FaceTest {
         String[] banned = {
             "\\bthrow\\b", "\\btry\\b", "\\bcatch\\b", "\\bsynchronized\\b", "\\bassert\\b", "\\bimport\\b", "\\bpackage\\b",
             "->", "::", "Exact\\b", "\\bstatic\\s*\\{", "\\bvar\\b", "\\bSystem\\.(?!arraycopy\\b)", "\\bMath\\.(?!min\\b|max\\b)",
-            "\\bInteger\\.(?!bitCount\\b|MIN_VALUE\\b|MAX_VALUE\\b)", "\\bequals\\b", "\\bhashCode\\b", "\\btoString\\b",
+            "\\bInteger\\.(?!bitCount\\b)", "\\bequals\\b", "\\bhashCode\\b", "\\btoString\\b",
             "\\bdouble\\b", "\\bfloat\\b", "String\\s*\\["
         };
         for (String b : banned) {

@@ -665,10 +665,13 @@ public final class ModelTest {
 
         List<Integer> firstBest(int what) {
             List<Integer> best = null;
+            int least = 0;
+            int p = latest();
             for (List<Integer> way : allWays()) {
-                if (best == null || what == 0 && together(latest(), way) > together(latest(), best)
-                    || what == 1 && falls(latest(), way) < falls(latest(), best)) {
+                int bad = what == 0 ? -together(p, way) : falls(p, way);
+                if (best == null || bad < least) {
                     best = way;
+                    least = bad;
                 }
             }
             return best;

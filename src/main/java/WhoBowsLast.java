@@ -617,18 +617,17 @@ public final class WhoBowsLast {
         return was;
     }
 
-    /** The member of a set whose number from 0 is i, or NOTHING. */
+    /** The member of a set whose number from 0 is i, or the last one if there are not so many. */
     private static int memberOf(int set, int i) {
+        int member = 0;
         int passed = 0;
         for (int b = 0; b < MOST_BOWS; b++) {
-            if ((set & 1 << b) != 0) {
-                if (passed == i) {
-                    return b;
-                }
+            if ((set & 1 << b) != 0 && passed <= i) {
+                member = b;
                 passed++;
             }
         }
-        return NOTHING;
+        return member;
     }
 
     private int gainAt(int c) {
@@ -921,6 +920,9 @@ public final class WhoBowsLast {
      */
     private static final class Orders {
         private static final int NOBODY = MOST_BOWS;
+        private static final int MOST_CONTRACTS = MOST_BOWS * (MOST_BOWS - 1);
+        /** Less than any way can bring. */
+        private static final int NEVER = -1000000;
 
         private final int[] kinds = new int[MOST_BOWS];
         private final int[] loves = new int[MOST_BOWS];
@@ -1030,7 +1032,7 @@ public final class WhoBowsLast {
 
         /** The most that the followers can bring if one is right ahead of them. */
         private int mostBehind(int ahead) {
-            int greatest = Integer.MIN_VALUE;
+            int greatest = NEVER;
             for (int i = 0; i < many; i++) {
                 greatest = Math.max(greatest, scores[ahead * MOST_BOWS + followers[i]] + mostThen[i]);
             }
@@ -1117,7 +1119,7 @@ public final class WhoBowsLast {
         int fewestBroken() {
             bySet[0] = 0;
             for (int set = 1; set <= full; set++) {
-                int fewest = Integer.MAX_VALUE;
+                int fewest = MOST_CONTRACTS;
                 for (int b = 0; b < bows; b++) {
                     if ((set & 1 << b) != 0) {
                         int broken = Integer.bitCount(aheads[b] & ~set);
@@ -1131,7 +1133,7 @@ public final class WhoBowsLast {
 
         /** The kind as which a bow makes the most noise of a way greatest (there must be a way). */
         int bestKind(int bow) {
-            int greatest = Integer.MIN_VALUE;
+            int greatest = NEVER;
             int best = 0;
             for (int kind = 0; kind < KINDS; kind++) {
                 kinds[bow] = kind;
