@@ -620,6 +620,8 @@ public final class EdgesTest {
         x.rule(4, 999);
         allCome(x);
         due("train(), all have come", x.train(), 0);
+        // 2 0 1 has most noise, 2 1 0 no fall; 2 lasts 6.
+        due("train() of 2 0 1", Check.made("bow love 40 seconds 20;rising love 30 seconds 1;falling love 20;train 7").train(), 1);
         says("NONE: there is no WAY");
         due("train() in a ring", ring().train(), Check.NONE);
     }
@@ -1160,7 +1162,9 @@ public final class EdgesTest {
         }
         Check.read(x, "train 1;tires 1;silent 1;gain 1;loss 1");
         x.clear();
-        x.lot();
+        for (int b = 8; b >= 0; b--) {
+            x.come(b);
+        }
         x.feed(0, 3);
         x.sheet(2, 8, 40);
         due("undo()", x.undo(), 9);
