@@ -60,6 +60,8 @@ public final class FaceTest {
         for (String method : FACE.split(" ")) {
             names.add(method.substring(0, method.indexOf('(')));
         }
+        int classes = 1 + WhoBowsLast.class.getDeclaredClasses().length;
+        Check.due("classes in the file: " + classes, classes <= 12 ? 1 : 0, 1);
         for (Class<?> inside : WhoBowsLast.class.getDeclaredClasses()) {
             Check.due(inside + " is private or of the package, and static",
                 Modifier.isStatic(inside.getModifiers()) && !Modifier.isPublic(inside.getModifiers()) ? 1 : 0, 1);

@@ -1065,13 +1065,13 @@ public final class WhoBowsLast {
 
         int countWays() {
             for (int set = full; set >= came; set--) {
-                int many = set == full ? 1 : 0;
+                int orders = set == full ? 1 : 0;
                 for (int b = 0; b < bows; b++) {
                     if (canFollow(b, set)) {
-                        many += bySet[set | 1 << b];
+                        orders += bySet[set | 1 << b];
                     }
                 }
-                bySet[set] = many;
+                bySet[set] = orders;
             }
             return bySet[came];
         }
